@@ -28,9 +28,7 @@ public final class GapRows {
     private static final int FAULTY = 4;
     private static final int NOT_SO = 5;
 
-    private final int[] tape = new int[TAPE_BYTES];
-    private int taped = 0;
-    private final TextReader reader = new TextReader(tape);
+    private final TextReader reader = new TextReader();
     // made by the first TEXT that needs them and used again by later ones
     private final Stream[] streams = new Stream[MAX_STREAMS];
     private int streamCount = 0;
@@ -48,22 +46,21 @@ public final class GapRows {
     // ---- the streams
 
     public int feed(int a, int b, int c, int d, int e) {
-        if (taped + FEED_BYTES > TAPE_BYTES) {
+        if (reader.taped + FEED_BYTES > TAPE_BYTES) {
             return NONE;
         }
-        putBytes(a);
-        putBytes(b);
-        putBytes(c);
-        putBytes(d);
-        putBytes(e);
-        return taped;
+        reader.putBytes(a);
+        reader.putBytes(b);
+        reader.putBytes(c);
+        reader.putBytes(d);
+        reader.putBytes(e);
+        return reader.taped;
     }
 
     public int ranks(int n) {
-        if (n < 0 || n > taped) {
+        if (n < 0 || n > reader.taped) {
             return refuse(NUMBER);
         }
-        taped = 0;
         reader.readText(n);
         latestFault = reader.fault;
         faultPlace = reader.place;
@@ -646,7 +643,7 @@ public final class GapRows {
     }
 
     public int size() {
-        return taped;
+        return reader.taped;
     }
 
     public int trouble() {
@@ -696,15 +693,6 @@ public final class GapRows {
             k++;
         }
         return k;
-    }
-
-    private void putBytes(int number) {
-        for (int shift = 24; shift >= 0; shift -= 8) {
-            if (taped < TAPE_BYTES) {
-                tape[taped] = (number >>> shift) & 255;
-                taped++;
-            }
-        }
     }
 
     private void takeText() {
@@ -976,7 +964,7 @@ public final class GapRows {
         }
 
         int width(int i) {
-            return gap(i) + spreads[i];
+            return low[i] - lowAhead(i) + spreads[i];
         }
 
         int widest() {
@@ -1288,7 +1276,7 @@ public final class GapRows {
         }
     }
 
-    /** Reads a TEXT from the left on, up to its first FAULT. */
+    /** THE TAPE; reads a TEXT from it, from the left on, up to its first FAULT. */
     private static final class TextReader {
         private static final int END = 0;
         private static final int BAD = 1;
@@ -1306,7 +1294,8 @@ public final class GapRows {
         private static final int MOST_LETTERS = 6;
         private static final int MOST_DIGITS = 3;
 
-        private final int[] bytes;
+        private final int[] bytes = new int[TAPE_BYTES];
+        int taped = 0;
         private int end = 0;
         // the TOKEN that is met: what it is, its place, the place behind it, its number
         private int kind = END;
@@ -1324,12 +1313,19 @@ public final class GapRows {
         final int[] pushTo = new int[MAX_PUSHES_TOLD];
         final int[] pushValue = new int[MAX_PUSHES_TOLD];
 
-        TextReader(int[] tape) {
-            bytes = tape;
+        void putBytes(int number) {
+            for (int shift = 24; shift >= 0; shift -= 8) {
+                if (taped < TAPE_BYTES) {
+                    bytes[taped] = (number >>> shift) & 255;
+                    taped++;
+                }
+            }
         }
 
+        /** The first n bytes are the TEXT; THE TAPE is empty then. */
         void readText(int n) {
-            end = Math.min(n, bytes.length);
+            end = Math.min(n, taped);
+            taped = 0;
             behind = 0;
             fault = 0;
             place = NONE;
@@ -1372,7 +1368,11 @@ public final class GapRows {
                 return fail(AGAIN);
             }
             step();
-            if (!readWord("error") || !isWholeWithin(LEAST_ERROR, MOST_ERROR)) {
+            if (!wantsWord("error")) {
+                return false;
+            }
+            step();
+            if (!wantsWhole(LEAST_ERROR, MOST_ERROR)) {
                 return false;
             }
             errorTold = token;
@@ -1396,7 +1396,11 @@ public final class GapRows {
             }
             names[streamsTold] = token;
             step();
-            if (!readWord("every") || !isWholeWithin(1, MOST_EVERY)) {
+            if (!wantsWord("every")) {
+                return false;
+            }
+            step();
+            if (!wantsWhole(1, MOST_EVERY)) {
                 return false;
             }
             everyTold[streamsTold] = token;
@@ -1418,7 +1422,7 @@ public final class GapRows {
                 return fail(NAME);
             }
             step();
-            if (!isWholeWithin(0, VALUE_KINDS - 1)) {
+            if (!wantsWhole(0, VALUE_KINDS - 1)) {
                 return false;
             }
             for (int i = 0; i < MAX_PUSHES_TOLD && kind == WHOLE; i++) {
@@ -1436,15 +1440,11 @@ public final class GapRows {
             }
         }
 
-        private boolean readWord(String text) {
-            if (!isWord(text)) {
-                return fail(FORM);
-            }
-            step();
-            return true;
+        private boolean wantsWord(String text) {
+            return isWord(text) || fail(FORM);
         }
 
-        private boolean isWholeWithin(int least, int most) {
+        private boolean wantsWhole(int least, int most) {
             if (kind != WHOLE) {
                 return fail(FORM);
             }

@@ -86,6 +86,13 @@ public final class FaultsTest {
         fault("ranks error 1000", 1, 12);
         fault("rankses error 10", 1, 0);
         fault("rank error 10", 1, 0);
+        fault("ranksx error 10", 1, 0);
+        fault("banks error 10", 1, 0);
+        fault("ranks errors 10", 1, 6);
+        fault("ranks terror 10", 1, 6);
+        fault(HEAD + "pushx a 1", 1, 15);
+        fault(HEAD + "bush a 1", 1, 15);
+        fault(HEAD + "stream a everyx 5", 1, 24);
         fault(HEAD, 1, 15);
         fault(HEAD + ";", 1, 15);
         fault(HEAD + "stream", 1, 21);

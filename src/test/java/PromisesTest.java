@@ -385,6 +385,9 @@ public final class PromisesTest {
         y.clear(0);
         y.push(0, 5);
         due.told(y, "apart of two that lie apart", y.apart(0, 1), 100);
+        y.clear(1);
+        y.push(1, 6);
+        due.told(y, "apart of one and one", y.apart(0, 1), 100);
     }
 
     /** Of like VALUES that of the STREAM merged into comes first: 60 of the second gets SPREAD 3 by 100. */
@@ -440,6 +443,13 @@ public final class PromisesTest {
         due.refused(x, "overall(0, 0) of 1,001", x.overall(0, 0), 3);
         due.told(x, "N stays", x.stream(0, 0), 810);
         due.told(x, "N stays", x.stream(1, 0), 191);
+        x.clear(1);
+        x.draw(1, 190, 1000);
+        due.told(x, "whole(0) of 1,000", x.whole(0), 1000);
+        due.told(x, "overall(1, 1) of 1,000", x.overall(1, 1), 0);
+        due.told(x, "merge(0, 1) of 1,000", x.merge(0, 1) > 0 ? 1 : 0, 1);
+        due.told(x, "N of both", x.stream(0, 0), 1000);
+        due.told(x, "check(0)", x.check(0), 0);
     }
 
     private static void promise33() {
