@@ -269,7 +269,7 @@ public final class GapRows {
         if (x == null || what < 0 || what > 1) {
             return refuse(NO_SUCH);
         }
-        return pass(what == 0 ? x.row.unsurePlaces() : x.row.widestDoubt());
+        return pass(x.row.doubts(what == 1));
     }
 
     public int total(int s, boolean most) {
@@ -1221,22 +1221,9 @@ public final class GapRows {
             return first;
         }
 
-        int unsurePlaces() {
+        /** How many places have a FLOOR that isn't their CEILING, or the greatest difference of both. */
+        int doubts(boolean greatest) {
             int count = 0;
-            int floor = 0;
-            int ceiling = 0;
-            int places = places();
-            for (int r = 1; r <= places; r++) {
-                floor = floorAt(r, floor);
-                ceiling = ceilingAt(r, ceiling);
-                if (value[floor] != value[ceiling]) {
-                    count++;
-                }
-            }
-            return count;
-        }
-
-        int widestDoubt() {
             int widest = 0;
             int floor = 0;
             int ceiling = 0;
@@ -1244,9 +1231,11 @@ public final class GapRows {
             for (int r = 1; r <= places; r++) {
                 floor = floorAt(r, floor);
                 ceiling = ceilingAt(r, ceiling);
-                widest = Math.max(widest, value[ceiling] - value[floor]);
+                int doubt = value[ceiling] - value[floor];
+                widest = Math.max(widest, doubt);
+                count += doubt != 0 ? 1 : 0;
             }
-            return widest;
+            return greatest ? widest : count;
         }
 
         int sumOfPlaces(boolean most) {
