@@ -4,30 +4,6 @@ public final class FaultsTest {
     private static final String HEAD = "ranks error 10;";
     private static final String ONE = HEAD + "stream a every 3;";
 
-    private static void fault(String text, int number, int place) {
-        GapRows x = Due.of("ranks error 7;stream kept every 9;push kept 4 5");
-        due.same("a TEXT ahead", x.about(1), 1);
-        Due.feed(x, text);
-        due.same("ranks of '" + text + "'", x.ranks(text.length()), GapRows.NONE);
-        due.same("trouble() of '" + text + "'", x.trouble(), 4);
-        due.same("fault() of '" + text + "'", x.fault(), number);
-        due.same("where() of '" + text + "'", x.where(), place);
-        due.same("THE TAPE is empty behind '" + text + "'", x.size(), 0);
-        due.told(x, "the STREAMS stay behind '" + text + "'", x.stream(0, 0), 2);
-        due.same("where() behind another call", x.where(), GapRows.NONE);
-        due.same("fault() stays", x.fault(), number);
-        due.same("ERROR stays", x.about(0), 7);
-    }
-
-    private static GapRows fine(String text, int streams) {
-        GapRows x = new GapRows();
-        Due.feed(x, text);
-        due.told(x, "ranks of '" + text + "'", x.ranks(text.length()), streams);
-        due.same("fault() of '" + text + "'", x.fault(), 0);
-        due.same("where() of '" + text + "'", x.where(), GapRows.NONE);
-        return x;
-    }
-
     private static void tape() {
         GapRows x = new GapRows();
         due.same("size() at first", x.size(), 0);
@@ -69,106 +45,106 @@ public final class FaultsTest {
     }
 
     private static void form() {
-        fault(";", 1, 0);
-        fault("foo", 1, 0);
-        fault("error 4", 1, 0);
-        fault("7", 1, 0);
-        fault("  Ranks", 1, 2);
-        fault("ranks", 1, 5);
-        fault("ranks   ", 1, 8);
-        fault("ranks 10", 1, 6);
-        fault("ranks error", 1, 11);
-        fault("ranks error;", 1, 11);
-        fault("ranks error x", 1, 12);
-        fault("ranks error 10 10", 1, 15);
-        fault("ranks error 10 stream", 1, 15);
-        fault("ranks error 100a", 2, 12);
-        fault("ranks error 1000", 1, 12);
-        fault("rankses error 10", 1, 0);
-        fault("rank error 10", 1, 0);
-        fault("ranksx error 10", 1, 0);
-        fault("banks error 10", 1, 0);
-        fault("ranks errors 10", 1, 6);
-        fault("ranks terror 10", 1, 6);
-        fault(HEAD + "pushx a 1", 1, 15);
-        fault(HEAD + "bush a 1", 1, 15);
-        fault(HEAD + "stream a everyx 5", 1, 24);
-        fault(HEAD, 1, 15);
-        fault(HEAD + ";", 1, 15);
-        fault(HEAD + "stream", 1, 21);
-        fault(HEAD + "stream 5", 1, 22);
-        fault(HEAD + "stream every", 1, 27);
-        fault(HEAD + "stream ranks every 5", 1, 22);
-        fault(HEAD + "stream stream every 5", 1, 22);
-        fault(HEAD + "stream push every 5", 1, 22);
-        fault(HEAD + "stream abcdefg every 5", 1, 22);
-        fault(HEAD + "stream a error 5", 1, 24);
-        fault(HEAD + "stream a every", 1, 29);
-        fault(HEAD + "stream a every;", 1, 29);
-        fault(HEAD + "stream a every 5 5", 1, 32);
-        fault(HEAD + "stream a every 1000", 1, 30);
-        fault(HEAD + "stream a every 5-", 1, 31);
-        fault(HEAD + "stream a every 5" + (char) 200, 1, 31);
-        fault(HEAD + "stream a every 5" + (char) 0, 1, 31);
-        fault(ONE, 1, 32);
-        fault(ONE + "push", 1, 36);
-        fault(ONE + "push 1", 1, 37);
-        fault(ONE + "push push 1", 1, 37);
-        fault(ONE + "push a", 1, 38);
-        fault(ONE + "push a;", 1, 38);
-        fault(ONE + "push a b", 1, 39);
-        fault(ONE + "push a 1 b", 1, 41);
-        fault(ONE + "push a 1 0000", 1, 41);
-        fault(ONE + "push a 1;;", 1, 41);
-        fault(ONE + "push a 1 ,", 1, 41);
+        due.fault(";", 1, 0);
+        due.fault("foo", 1, 0);
+        due.fault("error 4", 1, 0);
+        due.fault("7", 1, 0);
+        due.fault("  Ranks", 1, 2);
+        due.fault("ranks", 1, 5);
+        due.fault("ranks   ", 1, 8);
+        due.fault("ranks 10", 1, 6);
+        due.fault("ranks error", 1, 11);
+        due.fault("ranks error;", 1, 11);
+        due.fault("ranks error x", 1, 12);
+        due.fault("ranks error 10 10", 1, 15);
+        due.fault("ranks error 10 stream", 1, 15);
+        due.fault("ranks error 100a", 2, 12);
+        due.fault("ranks error 1000", 1, 12);
+        due.fault("rankses error 10", 1, 0);
+        due.fault("rank error 10", 1, 0);
+        due.fault("ranksx error 10", 1, 0);
+        due.fault("banks error 10", 1, 0);
+        due.fault("ranks errors 10", 1, 6);
+        due.fault("ranks terror 10", 1, 6);
+        due.fault(HEAD + "pushx a 1", 1, 15);
+        due.fault(HEAD + "bush a 1", 1, 15);
+        due.fault(HEAD + "stream a everyx 5", 1, 24);
+        due.fault(HEAD, 1, 15);
+        due.fault(HEAD + ";", 1, 15);
+        due.fault(HEAD + "stream", 1, 21);
+        due.fault(HEAD + "stream 5", 1, 22);
+        due.fault(HEAD + "stream every", 1, 27);
+        due.fault(HEAD + "stream ranks every 5", 1, 22);
+        due.fault(HEAD + "stream stream every 5", 1, 22);
+        due.fault(HEAD + "stream push every 5", 1, 22);
+        due.fault(HEAD + "stream abcdefg every 5", 1, 22);
+        due.fault(HEAD + "stream a error 5", 1, 24);
+        due.fault(HEAD + "stream a every", 1, 29);
+        due.fault(HEAD + "stream a every;", 1, 29);
+        due.fault(HEAD + "stream a every 5 5", 1, 32);
+        due.fault(HEAD + "stream a every 1000", 1, 30);
+        due.fault(HEAD + "stream a every 5-", 1, 31);
+        due.fault(HEAD + "stream a every 5" + (char) 200, 1, 31);
+        due.fault(HEAD + "stream a every 5" + (char) 0, 1, 31);
+        due.fault(ONE, 1, 32);
+        due.fault(ONE + "push", 1, 36);
+        due.fault(ONE + "push 1", 1, 37);
+        due.fault(ONE + "push push 1", 1, 37);
+        due.fault(ONE + "push a", 1, 38);
+        due.fault(ONE + "push a;", 1, 38);
+        due.fault(ONE + "push a b", 1, 39);
+        due.fault(ONE + "push a 1 b", 1, 41);
+        due.fault(ONE + "push a 1 0000", 1, 41);
+        due.fault(ONE + "push a 1;;", 1, 41);
+        due.fault(ONE + "push a 1 ,", 1, 41);
     }
 
     private static void otherFaults() {
-        fault("ranks error 1", 2, 12);
-        fault("ranks error 41", 2, 12);
-        fault("ranks error 0 ?", 2, 12);
-        fault(HEAD + "stream a every 0", 2, 30);
-        fault(HEAD + "stream a every 61", 2, 30);
-        fault(HEAD + "stream a every 999 9", 2, 30);
-        fault(ONE + "stream a every 0", 3, 39);
-        fault(ONE + "stream a ?", 3, 39);
-        fault(ONE + "push b 1", 3, 37);
-        fault(ONE + "push b", 3, 37);
-        fault(ONE + "push b 1;stream b every 1", 3, 37);
-        fault(HEAD + "push a 1", 3, 20);
-        fault(ONE + "ranks", 4, 32);
-        fault(ONE + "ranks error 99", 4, 32);
-        fault(HEAD + "ranks error 5", 4, 15);
+        due.fault("ranks error 1", 2, 12);
+        due.fault("ranks error 41", 2, 12);
+        due.fault("ranks error 0 ?", 2, 12);
+        due.fault(HEAD + "stream a every 0", 2, 30);
+        due.fault(HEAD + "stream a every 61", 2, 30);
+        due.fault(HEAD + "stream a every 999 9", 2, 30);
+        due.fault(ONE + "stream a every 0", 3, 39);
+        due.fault(ONE + "stream a ?", 3, 39);
+        due.fault(ONE + "push b 1", 3, 37);
+        due.fault(ONE + "push b", 3, 37);
+        due.fault(ONE + "push b 1;stream b every 1", 3, 37);
+        due.fault(HEAD + "push a 1", 3, 20);
+        due.fault(ONE + "ranks", 4, 32);
+        due.fault(ONE + "ranks error 99", 4, 32);
+        due.fault(HEAD + "ranks error 5", 4, 15);
         String four = ONE + "stream b every 1;stream c every 1;stream d every 1;";
-        fault(four + "stream e every 1", 5, 83);
-        fault(four + "stream a", 5, 83);
-        fault(four + "stream", 5, 83);
-        fault("stream a every 5;ranks error 5", 6, 0);
-        fault("  push a 5", 6, 2);
-        fault("push", 6, 0);
-        fault("stream", 6, 0);
-        fault("ranks error 10", 6, 14);
-        fault("ranks error 10  ", 6, 16);
+        due.fault(four + "stream e every 1", 5, 83);
+        due.fault(four + "stream a", 5, 83);
+        due.fault(four + "stream", 5, 83);
+        due.fault("stream a every 5;ranks error 5", 6, 0);
+        due.fault("  push a 5", 6, 2);
+        due.fault("push", 6, 0);
+        due.fault("stream", 6, 0);
+        due.fault("ranks error 10", 6, 14);
+        due.fault("ranks error 10  ", 6, 16);
     }
 
     private static void fineTexts() {
-        GapRows x = fine("ranks error 2;stream a every 60", 1);
+        GapRows x = due.fine("ranks error 2;stream a every 60", 1);
         due.same("ERROR", x.about(0), 2);
         due.same("EVERY", x.stream(0, 3), 60);
-        x = fine("  ranks error40 ;stream every every1;stream error every 060;push every 0 999 007 ;push error 1  ", 2);
+        x = due.fine("  ranks error40 ;stream every every1;stream error every 060;push every 0 999 007 ;push error 1  ", 2);
         due.same("ERROR", x.about(0), 40);
         due.same("EVERY", x.stream(1, 3), 60);
         due.same("greatest", x.stream(0, 7), 999);
         due.same("a WHOLE with noughts ahead", x.times(0, 7), 1);
         due.same("PUSHES of error", x.stream(1, 0), 1);
-        x = fine(ONE + "push a 1;stream abcdef every 1;stream b every 1;stream aa every 1;push a 2;push abcdef 3", 4);
+        x = due.fine(ONE + "push a 1;stream abcdef every 1;stream b every 1;stream aa every 1;push a 2;push abcdef 3", 4);
         due.same("VALUES", x.stream(0, 0), 2);
         due.same("VALUES", x.stream(1, 6), 3);
         StringBuilder many = new StringBuilder("ranks error 9;stream a every 7;push a");
         while (many.length() + 2 <= 400) {
             many.append(" 1");
         }
-        x = fine(many.toString(), 1);
+        x = due.fine(many.toString(), 1);
         due.same("as many PUSHES as a TEXT can tell", x.stream(0, 0), (many.length() - 37) / 2);
     }
 

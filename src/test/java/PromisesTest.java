@@ -35,13 +35,6 @@ public final class PromisesTest {
         return x;
     }
 
-    private static void row(GapRows x, int s, int... threes) {
-        due.told(x, "TUPLES", x.stream(s, 1), threes.length / 3);
-        for (int i = 0; i < threes.length; i++) {
-            due.told(x, "tuple(" + s + ", " + i / 3 + ", " + i % 3 + ")", x.tuple(s, i / 3, i % 3), threes[i]);
-        }
-    }
-
     private static void promise1() {
         GapRows x = new GapRows();
         due.same("trouble() at first", x.trouble(), 0);
@@ -93,7 +86,7 @@ public final class PromisesTest {
 
     private static void promises8and9() {
         GapRows x = withDoubt();
-        row(x, 0, 10, 1, 0, 20, 1, 0, 35, 1, 3, 60, 4, 0, 100, 4, 0);
+        due.row(x, 0, 10, 1, 0, 20, 1, 0, 35, 1, 3, 60, 4, 0, 100, 4, 0);
         int[] lows = {1, 2, 3, 7, 11};
         int[] highs = {1, 2, 6, 7, 11};
         int[] bands = {3, 3, 1, 3, 3};
@@ -127,7 +120,7 @@ public final class PromisesTest {
         // BOUND 3: 5 goes, 9 has GAP 2; 4 comes with SPREAD 1, 2 with SPREAD 1
         x.push(0, 4);
         x.push(0, 2);
-        row(x, 0, 1, 1, 0, 2, 1, 1, 4, 1, 1, 9, 2, 0);
+        due.row(x, 0, 1, 1, 0, 2, 1, 1, 4, 1, 1, 9, 2, 0);
         // BOUND 5: BAND of 1 is 2 (1 > 5 - 4 - 1), of 0 it is 3
         due.told(x, "FAMILY of the last", x.tuple(0, 3, 6), 3);
         due.told(x, "goes of the last", x.goes(0, 3), 0);
@@ -394,11 +387,11 @@ public final class PromisesTest {
     private static void promises32and44() {
         GapRows x = withSecond();
         due.told(x, "would(0, 1)", x.would(0, 1), 5);
-        row(x, 0, 10, 1, 0, 20, 1, 0, 60, 4, 0, 100, 4, 0);
-        row(x, 1, 15, 1, 0, 60, 1, 0, 200, 1, 0);
+        due.row(x, 0, 10, 1, 0, 20, 1, 0, 60, 4, 0, 100, 4, 0);
+        due.row(x, 1, 15, 1, 0, 60, 1, 0, 200, 1, 0);
         due.same("nothing was COMPRESSED", x.about(4), 1);
         due.told(x, "merge(0, 1)", x.merge(0, 1), 5);
-        row(x, 0, 10, 1, 0, 15, 1, 0, 60, 5, 0, 100, 5, 0, 200, 1, 0);
+        due.row(x, 0, 10, 1, 0, 15, 1, 0, 60, 5, 0, 100, 5, 0, 200, 1, 0);
         due.told(x, "N", x.stream(0, 0), 13);
         due.told(x, "COMPRESSIONS", x.stream(0, 5), 2);
         due.told(x, "PUSHES since", x.stream(0, 4), 0);
@@ -414,7 +407,7 @@ public final class PromisesTest {
         x.compress(1);
         due.told(x, "would(1, 0)", x.would(1, 0), 4);
         due.told(x, "merge(1, 0)", x.merge(1, 0), 4);
-        row(x, 1, 10, 1, 0, 20, 2, 0, 60, 5, 0, 200, 5, 0);
+        due.row(x, 1, 10, 1, 0, 20, 2, 0, 60, 5, 0, 200, 5, 0);
         due.told(x, "the first one's COMPRESSIONS", x.stream(0, 5), 1);
         due.told(x, "its own COMPRESSIONS", x.stream(1, 5), 2);
     }
@@ -490,7 +483,7 @@ public final class PromisesTest {
         due.told(x, "overall(5, 1)", x.overall(5, 1), 2);
         due.told(x, "overall(4, 0)", x.overall(4, 0), 15);
         due.told(x, "overall(13, 0)", x.overall(13, 0), 200);
-        row(x, 1, 15, 1, 0, 60, 1, 0, 200, 1, 0);
+        due.row(x, 1, 15, 1, 0, 60, 1, 0, 200, 1, 0);
         due.refused(x, "whole(3)", x.whole(3), 1);
         due.refused(x, "whole(-1)", x.whole(-1), 1);
         due.refused(x, "overall(0, 0)", x.overall(0, 0), 2);
@@ -552,12 +545,12 @@ public final class PromisesTest {
         due.told(x, "push(1, 6)", x.push(1, 6), 3);
         due.told(x, "PUSHES since", x.stream(1, 4), 0);
         due.told(x, "COMPRESSIONS", x.stream(1, 5), 1);
-        row(x, 1, 5, 1, 0, 6, 1, 0, 7, 1, 0);
+        due.row(x, 1, 5, 1, 0, 6, 1, 0, 7, 1, 0);
         x.push(1, 0);
         x.push(1, 999);
         // BOUND 2 of 6 VALUES: from the back each second one goes
         due.told(x, "push(1, 6)", x.push(1, 6), 4);
-        row(x, 1, 0, 1, 0, 5, 1, 0, 6, 2, 0, 999, 2, 0);
+        due.row(x, 1, 0, 1, 0, 5, 1, 0, 6, 2, 0, 999, 2, 0);
         due.refused(x, "push(1, -1)", x.push(1, -1), 2);
         due.refused(x, "push(1, 1000)", x.push(1, 1000), 2);
         due.refused(x, "push(2, 1000)", x.push(2, 1000), 1);
@@ -575,7 +568,7 @@ public final class PromisesTest {
         GapRows x = Due.of("ranks error 40;stream a every 60");
         // 149, 11249, 843749 less 12 * 65537
         due.told(x, "draw(0, 3, 100)", x.draw(0, 3, 100), 3);
-        row(x, 0, 5, 1, 0, 49, 1, 0, 49, 1, 0);
+        due.row(x, 0, 5, 1, 0, 49, 1, 0, 49, 1, 0);
         due.told(x, "SEED", x.about(5), 57305);
         due.yes("seed(65536)", x.seed(65536));
         // 75 * 65536 + 74 = 4915274, less 74 * 65537 is 65536
@@ -613,7 +606,7 @@ public final class PromisesTest {
 
     private static void promise43() {
         GapRows x = shortTen();
-        row(x, 0, 10, 1, 0, 20, 1, 0, 60, 4, 0, 100, 4, 0);
+        due.row(x, 0, 10, 1, 0, 20, 1, 0, 60, 4, 0, 100, 4, 0);
         due.told(x, "PUSHES since", x.stream(0, 4), 0);
         due.told(x, "COMPRESSIONS", x.stream(0, 5), 1);
         due.told(x, "compress(0) again", x.compress(0), 0);
@@ -627,7 +620,7 @@ public final class PromisesTest {
         x.push(0, 2);
         // 1 (1, 0), 2 (1, 1), 4 (1, 1), 9 (2, 0) by 5: 4 goes (9 has 3), 2 goes (9 has 4)
         due.told(x, "compress(0)", x.compress(0), 2);
-        row(x, 0, 1, 1, 0, 9, 4, 0);
+        due.row(x, 0, 1, 1, 0, 9, 4, 0);
     }
 
     /** A FAMILY goes as one or stays as one: 3 has 2 ahead of it with a lesser BAND. */
@@ -635,13 +628,13 @@ public final class PromisesTest {
         GapRows x = Due.of("ranks error 4;stream a every 60;push a 1 2 3 30 31 32");
         x.compress(0);
         // BOUND 3: 32 (3, 0), 3 (2, 0) ahead of it, and 1
-        row(x, 0, 1, 1, 0, 3, 2, 0, 32, 3, 0);
+        due.row(x, 0, 1, 1, 0, 3, 2, 0, 32, 3, 0);
         x.push(0, 2);
         x.push(0, 40);
         x.push(0, 41);
         x.push(0, 42);
         // N 10, BOUND 5
-        row(x, 0, 1, 1, 0, 2, 1, 1, 3, 2, 0, 32, 3, 0, 40, 1, 0, 41, 1, 0, 42, 1, 0);
+        due.row(x, 0, 1, 1, 0, 2, 1, 1, 3, 2, 0, 32, 3, 0, 40, 1, 0, 41, 1, 0, 42, 1, 0);
         due.told(x, "FAMILY of 3", x.tuple(0, 2, 6), 2);
         // 41, 40 go into 42 (3, 0); 32 doesn't (6); 3 with 2 doesn't (3 and 3); 2 goes into 3 (3, 0)
         due.told(x, "goes(0, 2)", x.goes(0, 2), 0);
@@ -651,14 +644,14 @@ public final class PromisesTest {
         due.told(x, "goes(0, 2) by 3", x.goes(0, 2), 1);
         x.error(4);
         due.told(x, "compress(0)", x.compress(0), 3);
-        row(x, 0, 1, 1, 0, 3, 3, 0, 32, 3, 0, 42, 3, 0);
+        due.row(x, 0, 1, 1, 0, 3, 3, 0, 32, 3, 0, 42, 3, 0);
         x = Due.of("ranks error 4;stream a every 60;push a 1 2 3 30 31 32");
         x.compress(0);
         x.push(0, 2);
         x.error(2);
         // BOUND 7: 3 and 2 go into 32 at once
         due.told(x, "compress(0) by 2", x.compress(0), 2);
-        row(x, 0, 1, 1, 0, 32, 6, 0);
+        due.row(x, 0, 1, 1, 0, 32, 6, 0);
     }
 
     private static void promises45to47() {
