@@ -371,6 +371,16 @@ public final class AnswerEdgesTest {
         due.told(x, "miss(0, 4)", x.miss(0, 4), 1);
         due.told(x, "miss(0, 5)", x.miss(0, 5), 0);
         due.told(x, "missed(0)", x.missed(0), 2);
+        due.by("MISS among VALUES 0 and 999");
+        // 0 (1, 0), 999 (5, 0); sorted 0 0 0 0 999 999: 999 stands from 5 on, 0 up to 4
+        x = pushed(2, 0, 0, 0, 0, 999, 999);
+        x.compress(0);
+        due.row(x, 0, 0, 1, 0, 999, 5, 0);
+        int[] far = {0, 0, 0, 1, 0, 0};
+        for (int r = 1; r <= 6; r++) {
+            due.told(x, "miss(0, " + r + ")", x.miss(0, r), far[r - 1]);
+        }
+        due.told(x, "missed(0)", x.missed(0), 1);
     }
 
     private static void heavies() {

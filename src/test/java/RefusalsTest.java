@@ -32,8 +32,16 @@ public final class RefusalsTest {
             this.trouble = trouble;
         }
 
+        /** All of them, if they are few. */
         List<Integer> taken() {
-            return List.of(least, most);
+            if (most - least > 12) {
+                return List.of(least, least + 1, most - 1, most);
+            }
+            List<Integer> numbers = new ArrayList<>();
+            for (int number = least; number <= most; number++) {
+                numbers.add(number);
+            }
+            return numbers;
         }
 
         List<Integer> refused() {

@@ -387,6 +387,7 @@ public final class RowEdgesTest {
         x = pushed(2, 10, 20, 30, 40, 50, 60, 70, 80, 90, 100);
         x.compress(0);
         due.row(x, 0, 10, 1, 0, 100, 9, 0);
+        due.refused(x, "finest(1)", x.finest(1), 1);
         due.told(x, "finest(0) of a GAP of 9 in 10", x.finest(0), 2);
         due.refused(x, "error(3)", x.error(3), 5);
         due.told(x, "error(2)", x.error(2), 2);
@@ -505,6 +506,23 @@ public final class RowEdgesTest {
         due.told(x, "sum(0)", x.sum(0), 1 + 6 + 8 + 9 + 5 + 7 + 7 + 8 + 8 + 3 + 3 + 4);
         due.told(x, "sum(1)", x.sum(1), 0);
         due.told(x, "unlike VALUES there", x.stream(1, 9), 0);
+        due.by("MERGE: VALUES 0 and 999 of both");
+        GapRows y = two(40);
+        for (int v : new int[] {0, 0, 5, 999}) {
+            y.push(0, v);
+        }
+        for (int v : new int[] {0, 999, 999}) {
+            y.push(1, v);
+        }
+        due.told(y, "merge(0, 1)", y.merge(0, 1), 7);
+        due.row(y, 0, 0, 1, 0, 0, 1, 0, 0, 1, 0, 5, 1, 0, 999, 1, 0, 999, 1, 0, 999, 1, 0);
+        due.told(y, "times(0, 0)", y.times(0, 0), 3);
+        due.told(y, "times(0, 999)", y.times(0, 999), 3);
+        due.told(y, "times(1, 0)", y.times(1, 0), 0);
+        due.told(y, "times(1, 999)", y.times(1, 999), 0);
+        due.told(y, "sorted(0, 3)", y.sorted(0, 3), 0);
+        due.told(y, "sorted(0, 4)", y.sorted(0, 4), 5);
+        due.told(y, "unlike VALUES", y.stream(0, 9), 3);
         due.by("MERGE: the one that gave all takes PUSHES as a new one");
         x.push(1, 3);
         due.row(x, 1, 3, 1, 0);

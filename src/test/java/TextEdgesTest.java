@@ -177,6 +177,17 @@ public final class TextEdgesTest {
                 due.fault(text, 1, c == 32 ? 30 : 22);
             }
         }
+        due.by("a NAME of push: told, not told, no NAME");
+        for (int c = 0; c < 256; c++) {
+            String text = ONE + "push " + (char) c + " 7";
+            if (c == 'a') {
+                due.fine(text, 1);
+            } else {
+                // a blank there: 7 stands where a NAME is due
+                due.fault(text, isLetter(c) ? 3 : 1, c == 32 ? 39 : 37);
+            }
+        }
+        due.by("any byte ahead of all");
         for (int c = 0; c < 256; c++) {
             if (c == 32) {
                 due.fine((char) c + HEAD + "stream a every 5", 1);
