@@ -98,6 +98,52 @@ public final class AnswerEdgesTest {
         due.told(x, "missed(0)", x.missed(0), 0);
     }
 
+    /** A STREAM of 60 VALUES, many of them alike, its ROW made by PUSHES, COMPRESSIONS and a MERGE. */
+    private static GapRows mixed(int error) {
+        GapRows x = Due.of("ranks error " + error + ";stream a every 7;stream b every 11");
+        x.seed(error * 31);
+        x.draw(0, 25, 1000);
+        x.draw(1, 15, 40);
+        x.merge(0, 1);
+        x.draw(0, 20, 300);
+        return x;
+    }
+
+    private static void toldBesideSorted() {
+        for (int error = 2; error <= 40; error++) {
+            GapRows x = mixed(error);
+            int[] sorted = new int[60];
+            due.by("SORTED lies between FLOOR and CEILING");
+            for (int r = 1; r <= 60; r++) {
+                sorted[r - 1] = x.sorted(0, r);
+                due.yes("FLOOR of " + r, x.bounds(0, r, 0) <= sorted[r - 1]);
+                due.yes("CEILING of " + r, x.bounds(0, r, 1) >= sorted[r - 1]);
+            }
+            x = mixed(error);
+            due.by("its VALUE would stand at some place from LOW to HIGH; VALUES never fall");
+            for (int i = 0; i < x.stream(0, 1); i++) {
+                int v = x.tuple(0, i, 0);
+                boolean stands = false;
+                for (int r = x.tuple(0, i, 3); r <= x.tuple(0, i, 4); r++) {
+                    stands = stands || sorted[r - 1] == v;
+                }
+                due.yes("TUPLE " + i + " by ERROR " + error, stands);
+                due.yes("the next is no less", i == 0 || v >= x.tuple(0, i - 1, 0));
+            }
+            due.told(x, "check(0)", x.check(0), 0);
+            due.by("SURE, MOST: at least, at most so many VALUES are no greater");
+            x = mixed(error);
+            for (int v = 0; v <= 999; v += 9) {
+                int count = 0;
+                for (int w : sorted) {
+                    count += w <= v ? 1 : 0;
+                }
+                due.yes("SURE for " + v, x.rank(0, v, false) <= count);
+                due.yes("MOST for " + v, x.rank(0, v, true) >= count);
+            }
+        }
+    }
+
     /** The greater whole: the least place that is no less than N times k by n. */
     private static void quotas() {
         due.by("QUOTA k of n: N times k by n, the greater whole; 1 at least");
@@ -580,6 +626,7 @@ public final class AnswerEdgesTest {
         answerAtBothEnds();
         firstOfSeveral();
         halfOfBound();
+        toldBesideSorted();
         quotas();
         sureAndMost();
         betweenTwo();

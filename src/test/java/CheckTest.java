@@ -42,6 +42,36 @@ public final class CheckTest {
         due.told(x, "check(0) of N " + n, x.check(0), want);
     }
 
+    /** Sets a number of each of two arrays of the ROW, and N, and asks. */
+    private static void twoWrong(int want, String[] arrays, int[] indexes, int[] numbers, int n) throws Exception {
+        GapRows x = good();
+        Object stream = ((Object[]) inside(x, "streams"))[0];
+        for (int i = 0; i < arrays.length; i++) {
+            ((int[]) inside(inside(stream, "row"), arrays[i]))[indexes[i]] = numbers[i];
+        }
+        Field field = stream.getClass().getDeclaredField("n");
+        field.setAccessible(true);
+        field.setInt(stream, n);
+        due.told(x, "check(0) of two that are wrong, " + want + " first", x.check(0), want);
+    }
+
+    private static void firstOfTwo() throws Exception {
+        due.by("check: the first that is wrong");
+        String[] valueAndSpread = {"value", "spreads"};
+        // the TUPLE that falls stands behind the one with a wrong SPREAD
+        twoWrong(1, valueAndSpread, new int[] {4, 1}, new int[] {59, -1}, 11);
+        twoWrong(1, valueAndSpread, new int[] {4, 2}, new int[] {59, 4}, 11);
+        twoWrong(1, valueAndSpread, new int[] {4, 0}, new int[] {59, 1}, 11);
+        twoWrong(1, valueAndSpread, new int[] {4, 1}, new int[] {59, 0}, 12);
+        String[] spreads = {"spreads", "spreads"};
+        twoWrong(2, spreads, new int[] {3, 2}, new int[] {-1, 4}, 11);
+        twoWrong(2, spreads, new int[] {3, 0}, new int[] {-1, 1}, 11);
+        twoWrong(2, spreads, new int[] {3, 1}, new int[] {-1, 0}, 12);
+        twoWrong(3, spreads, new int[] {2, 1}, new int[] {4, 0}, 12);
+        twoWrong(3, spreads, new int[] {0, 1}, new int[] {1, 0}, 10);
+        twoWrong(4, spreads, new int[] {2, 0}, new int[] {4, 1}, 11);
+    }
+
     public static void main(String[] args) throws Exception {
         wrong(1, "value", 1, 9);
         wrong(1, "value", 4, 59);
@@ -68,6 +98,7 @@ public final class CheckTest {
         lastSpread();
         // the first that is wrong counts
         wrong(1, "value", 1, 9, 2, 8);
+        firstOfTwo();
         due.finish();
     }
 

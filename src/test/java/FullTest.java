@@ -173,6 +173,29 @@ public final class FullTest {
         due.same("idle(3)", x.idle(3), 3);
     }
 
+    private static void greatestBands() {
+        due.by("bands: k (0 .. 12), by the greatest BOUND there is");
+        GapRows x = Due.of("ranks error 2;stream a every 60");
+        for (int i = 0; i < 5; i++) {
+            x.draw(0, 200, 1000);
+        }
+        due.told(x, "BOUND", x.stream(0, 2), 1000);
+        due.yes("SPREAD 0 has BAND 10", x.bands(0, 10) >= 2);
+        int sum = 0;
+        for (int k = 0; k <= 12; k++) {
+            sum += x.bands(0, k);
+        }
+        due.told(x, "TUPLES", x.stream(0, 1), sum);
+        due.told(x, "bands(0, 0)", x.bands(0, 0), 0);
+        due.told(x, "bands(0, 11)", x.bands(0, 11), 0);
+        due.told(x, "bands(0, 12)", x.bands(0, 12), 0);
+        due.refused(x, "bands(0, 13)", x.bands(0, 13), 2);
+        due.by("bands by BOUND 1");
+        x = Due.of("ranks error 40;stream a every 60;push a 1 2 3 4 5");
+        due.told(x, "bands(0, 1)", x.bands(0, 1), 5);
+        due.told(x, "bands(0, 0)", x.bands(0, 0), 0);
+    }
+
     private static void manyCalls() {
         due.by("An object is used for at most 512 calls");
         GapRows x = new GapRows();
@@ -231,6 +254,7 @@ public final class FullTest {
         merges();
         wholes();
         allFull();
+        greatestBands();
         manyCalls();
         due.finish();
     }
