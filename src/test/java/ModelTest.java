@@ -182,9 +182,10 @@ public final class ModelTest {
             int values = i > 0 && types[0] == int.class ? Math.max(0, model.stream((Integer) args[0], 0)) : 0;
             args[i] = types[i] == boolean.class ? (Object) (of(2) == 0) : (Object) likely(name, i, values);
         }
-        // the model was asked above for what lies in it: bring both to the same latest call
-        real.band(0, 1);
-        model.band(0, 1);
+        // the model was asked above for what lies in it: bring both to the same latest call, refused or not
+        int bound = of(2);
+        real.band(0, bound);
+        model.band(0, bound);
         ask(method, args);
     }
 
